@@ -1613,10 +1613,10 @@ public final class RainOpera {
             if (!isInReach(below)) {
                 return;
             }
-            if (below == 0) {
+            if (below == 0 || isFree(below)) {
                 first = sets == 0 ? set : first;
                 common = sets == 0 ? set : common & set;
-                sets++;
+                sets += 1 << below;
                 return;
             }
             int b = below - 1;
@@ -1624,6 +1624,16 @@ public final class RainOpera {
             sing(b, 1);
             search(b, set | 1 << b);
             sing(b, -1);
+        }
+
+        /** Whether the BARS that are left may be sung or not, just as one likes. */
+        private boolean isFree(int below) {
+            for (int t = 0; t < size; t++) {
+                if (sum[t] < from[t] || sum[t] + ahead[t * (BARS + 1) + below] > to[t]) {
+                    return false;
+                }
+            }
+            return true;
         }
 
         private void sing(int b, int sign) {
