@@ -48,7 +48,6 @@ public final class RainOpera {
     private boolean isKept;
     /** A text is read into a spare one, so that a fault leaves the one before as it is. */
     private Score spareScore = new Score();
-    private Law spareLaw = new Law();
     private final LawReader lawReader = new LawReader();
     private final Tape tape = new Tape();
     /** The evening as it would be now; it is reckoned anew only when something it hangs on has changed. */
@@ -157,12 +156,12 @@ public final class RainOpera {
             return NONE;
         }
         tape.startReading(n);
-        int answer = lawReader.readLaw(tape, spareLaw);
+        int answer = lawReader.readLaw(tape);
         tape.size = 0;
         if (answer > 0) {
             Law before = theatre.law;
-            theatre.law = spareLaw;
-            spareLaw = before;
+            theatre.law = lawReader.law;
+            lawReader.law = before;
             isStale = true;
         }
         return answer;
@@ -934,7 +933,7 @@ public final class RainOpera {
         }
     }
 
-    /** Turns a text into a LAW. */
+    /** Turns a text into a LAW, its own one; whoever wants it gives another one for it. */
     private static final class LawReader {
         private static final int DEEPEST = 6;
 
@@ -943,17 +942,14 @@ public final class RainOpera {
         private static final int TERMS = 2;
         private static final int FACTORS = 3;
 
-        private Tape tape;
-        private Law law;
+        Law law = new Law();
 
         /** How many CLAUSES, or the FAULT. */
-        int readLaw(Tape from, Law to) {
-            tape = from;
-            law = to;
+        int readLaw(Tape tape) {
             law.size = 0;
             law.clauses = 0;
             for (int i = 0; i <= CLAUSES && tape.fault == 0; i++) {
-                readClause();
+                readClause(tape);
                 if (tape.fault == 0 && tape.peek() == NONE) {
                     return law.clauses;
                 }
@@ -962,7 +958,7 @@ public final class RainOpera {
             return tape.fault;
         }
 
-        private void readClause() {
+        private void readClause(Tape tape) {
             int c = law.clauses;
             int kind = tape.peekAmong(CLAUSE_SIGNS);
             if (kind < 0) {
@@ -977,34 +973,34 @@ public final class RainOpera {
             law.kind[c] = kind;
             law.amountStart[c] = law.size;
             if (kind != SNOW_CLAUSE) {
-                readChain(TERMS, 0);
+                readChain(tape, TERMS, 0);
             }
             law.conditionStart[c] = law.size;
             tape.pass('(');
-            readChain(PARTS, 1);
+            readChain(tape, PARTS, 1);
             tape.pass(')');
             law.conditionEnd[c] = law.size;
             law.clauses++;
         }
 
         /** Links of one level, with that level's signs between them. */
-        private void readChain(int level, int depth) {
+        private void readChain(Tape tape, int level, int depth) {
             int joint = NONE;
             for (int i = 0; i < TEXT && tape.fault == 0; i++) {
                 boolean isJump = joint == Law.AND || joint == Law.OR;
                 int jump = isJump ? law.emit(joint, 0) : NONE;
                 switch (level) {
-                    case PARTS: readChain(PIECES, depth); break;
-                    case PIECES: readPiece(depth); break;
-                    case TERMS: readChain(FACTORS, depth); break;
-                    default: readFactor(depth); break;
+                    case PARTS: readChain(tape, PIECES, depth); break;
+                    case PIECES: readPiece(tape, depth); break;
+                    case TERMS: readChain(tape, FACTORS, depth); break;
+                    default: readFactor(tape, depth); break;
                 }
                 if (isJump) {
                     law.jumpFrom(jump);
                 } else if (joint != NONE) {
                     law.emit(joint, 0);
                 }
-                joint = peekJoint(level);
+                joint = peekJoint(tape, level);
                 if (joint == NONE) {
                     return;
                 }
@@ -1013,7 +1009,7 @@ public final class RainOpera {
         }
 
         /** The code of the sign that may join links of this level, if it is next; else NONE. */
-        private int peekJoint(int level) {
+        private int peekJoint(Tape tape, int level) {
             int sign = tape.peek();
             int operator = tape.peekAmong(OPERATOR_SIGNS);
             switch (level) {
@@ -1024,51 +1020,51 @@ public final class RainOpera {
             }
         }
 
-        private void readPiece(int depth) {
+        private void readPiece(Tape tape, int depth) {
             int sign = tape.peek();
             if (sign == '!') {
-                if (enter(depth)) {
-                    readPiece(depth + 1);
+                if (enter(tape, depth)) {
+                    readPiece(tape, depth + 1);
                     law.emit(Law.NOT, 0);
                 }
             } else if (sign == '(') {
-                if (enter(depth)) {
-                    readChain(PARTS, depth + 1);
+                if (enter(tape, depth)) {
+                    readChain(tape, PARTS, depth + 1);
                     tape.pass(')');
                 }
             } else {
-                readComparison(depth);
+                readComparison(tape, depth);
             }
         }
 
-        private void readComparison(int depth) {
-            readChain(TERMS, depth);
+        private void readComparison(Tape tape, int depth) {
+            readChain(tape, TERMS, depth);
             int operator = tape.peekAmong(OPERATOR_SIGNS);
             if (operator <= Law.REMAINDER) {
                 tape.fail(CANNOT_STAND, tape.place);
                 return;
             }
             tape.place++;
-            readChain(TERMS, depth);
+            readChain(tape, TERMS, depth);
             law.emit(operator, 0);
         }
 
-        private void readFactor(int depth) {
+        private void readFactor(Tape tape, int depth) {
             int letter = tape.peekAmong(LETTER_SIGNS);
             if (letter >= 0) {
                 tape.place++;
                 law.emit(Law.LETTER, letter);
             } else if (tape.peekDigit() >= 0) {
-                readNumber();
+                readNumber(tape);
             } else if (tape.peek() != '[') {
                 tape.fail(CANNOT_STAND, tape.place);
-            } else if (enter(depth)) {
-                readChain(TERMS, depth + 1);
+            } else if (enter(tape, depth)) {
+                readChain(tape, TERMS, depth + 1);
                 tape.pass(']');
             }
         }
 
-        private void readNumber() {
+        private void readNumber(Tape tape) {
             int number = 0;
             for (int digits = 0; digits <= 5; digits++) {
                 int digit = tape.peekDigit();
@@ -1086,7 +1082,7 @@ public final class RainOpera {
         }
 
         /** Passes a sign that opens one level more, if that many may be open. */
-        private boolean enter(int depth) {
+        private boolean enter(Tape tape, int depth) {
             if (depth >= DEEPEST) {
                 tape.fail(TOO_DEEP, tape.place);
             } else {
