@@ -1188,7 +1188,7 @@ public final class RainOpera {
 
     /** AN EVENING as it goes: what comes through the roof, where it falls, and what it was LED to. */
     private static final class Evening {
-        /** By NOTE and SLATE. */
+        /** By NOTE and SLATE, of the NOTES that there are. */
         final int[] drops = new int[NOTES * SLATES];
         /** The ACT in which those DROPS fall; ACTS: never. */
         final int[] fallsIn = new int[NOTES * SLATES];
@@ -1212,7 +1212,6 @@ public final class RainOpera {
 
         void pour(Theatre theatre) {
             Score score = theatre.score;
-            Arrays.fill(drops, 0);
             for (int i = 0; i < score.notes; i++) {
                 for (int k = 0; k < SLATES; k++) {
                     int at = i * SLATES + k;

@@ -774,6 +774,11 @@ public final class PromiseTest {
         due(x.leftOut(0, -1, -1), -1, "ACT -1");
         due(x.leftOut(10, 0, -1), -1, "GUEST 10");
         due(x.guestWet(0, 0), 6, "nothing is left out by asking");
+        x.seat(0, 0, false, 0);
+        score(many("s5x1", 32, ","));
+        due(x.leftOut(0, 0, -1), 32, "all of 32");
+        due(x.leftOut(0, 0, 31), 31, "the last of 32");
+        due(x.leftOut(0, 0, 32), -2, "no such place");
     }
 
     private void promise19Nails() {
@@ -813,6 +818,13 @@ public final class PromiseTest {
         due(x.nails(8, 1), 1 << 6, "past an UMBRELLA");
         due(x.nails(9, 1), 1 << 3 | 1 << 4 | 1 << 6, "both");
         due(x.count(7), 0, "nothing is NAILED by asking");
+        law("d1(1=1)");
+        x.seat(0, 0, false, 0);
+        for (int k = 0; k < 16; k++) {
+            x.slate(k, 0, 0, 0, 47);
+        }
+        due(x.nails(1, 0), 16, "all SLATES");
+        due(x.nails(1, 1), 0xffff, "all SLATES");
     }
 
     private void promise20Sung() {
@@ -868,6 +880,13 @@ public final class PromiseTest {
         due(sung(0, 0, 0, 250), 792, "5 of 12 BARS; a byte above 127");
         due(sung(0, 1, 0, 250), 31, "the first five");
         due(sung(0, 0, 1, 0), 4096, "all sets of 12 BARS");
+        int[] twenty = new int[40];
+        twenty[38] = 0;
+        twenty[39] = 100;
+        for (int t = 0; t < 19; t++) {
+            twenty[2 * t] = 95 - t;
+        }
+        due(sung(0, 0, twenty), 66, "twenty SEATS, 2 of 12 BARS");
     }
 
     private void promise21Sponge() {
