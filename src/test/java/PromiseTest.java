@@ -1,23 +1,5 @@
 /** Each promise of the document: ordinary inputs, the edges that it names, and wrong inputs. */
-public final class PromiseTest {
-    private static int wrong;
-    private static int asked;
-    private static String promise = "";
-
-    private RainOpera x = new RainOpera();
-
-    private static void due(long got, long want, String what) {
-        asked++;
-        if (got != want) {
-            wrong++;
-            System.out.println(promise + ": " + what + " answered " + got + ", due is " + want);
-        }
-    }
-
-    private static void due(boolean got, boolean want, String what) {
-        due(got ? 1 : 0, want ? 1 : 0, what);
-    }
-
+public final class PromiseTest extends Stage {
     public static void main(String[] args) {
         new PromiseTest().promise1NewObject();
         new PromiseTest().promise2Seat();
@@ -54,65 +36,11 @@ public final class PromiseTest {
         new PromiseTest().promise27KeepAnd28Undo();
         new PromiseTest().promise29Check();
         new PromiseTest().promise30Count();
-        System.out.println(asked + " answers asked, " + wrong + " not as due");
-        if (wrong != 0) {
-            System.exit(1);
-        }
+        endWithTally();
     }
-
-    // ---- what is fed
-
-    private void feed(int... bytes) {
-        for (int at = 0; at < bytes.length; at += 20) {
-            int[] words = new int[5];
-            for (int j = 0; j < 20; j++) {
-                words[j / 4] = words[j / 4] << 8 | (at + j < bytes.length ? bytes[at + j] : 0);
-            }
-            x.feed(words[0], words[1], words[2], words[3], words[4]);
-        }
-    }
-
-    private int score(String text) {
-        feed(text.chars().toArray());
-        return x.score(text.length());
-    }
-
-    private int law(String text) {
-        feed(text.chars().toArray());
-        return x.law(text.length());
-    }
-
-    private static String many(String text, int n, String between) {
-        StringBuilder all = new StringBuilder(text);
-        for (int i = 1; i < n; i++) {
-            all.append(between).append(text);
-        }
-        return all.toString();
-    }
-
-    private int seated(int act, int guests, int what, int... seats) {
-        feed(seats);
-        return x.seated(act, guests, seats.length, what);
-    }
-
-    private int sung(int act, int what, int... pairs) {
-        feed(pairs);
-        return x.sung(act, pairs.length / 2, what);
-    }
-
-    private int check(int act, int row, int... numbers) {
-        int[] bytes = new int[4 * numbers.length];
-        for (int j = 0; j < bytes.length; j++) {
-            bytes[j] = numbers[j / 4] >>> (24 - 8 * (j % 4)) & 255;
-        }
-        feed(bytes);
-        return x.check(act, row, numbers.length);
-    }
-
-    // ---- promises
 
     private void promise1NewObject() {
-        promise = "promise 1";
+        about("promise 1");
         for (int what = 0; what <= 8; what++) {
             due(x.count(what), what == 5 ? 1 : 0, "count(" + what + ")");
         }
@@ -132,7 +60,7 @@ public final class PromiseTest {
     }
 
     private void promise2Seat() {
-        promise = "promise 2";
+        about("promise 2");
         due(x.seat(0, 0, true, 99), true, "seat");
         due(x.count(200), 1099, "count(200)");
         due(x.seat(7, 11, false, 7), true, "seat");
@@ -157,7 +85,7 @@ public final class PromiseTest {
     }
 
     private void promise3Slate() {
-        promise = "promise 3";
+        about("promise 3");
         due(x.slate(0, 0, 0, 0, 47), true, "slate 0");
         due(x.slate(15, 7, 11, 47, 47), true, "slate 15");
         due(x.count(6), 0x8001, "told SLATES");
@@ -181,7 +109,7 @@ public final class PromiseTest {
     }
 
     private void promise4Nail() {
-        promise = "promise 4";
+        about("promise 4");
         due(x.nail(3, true), false, "no such SLATE");
         due(x.nail(3, false), false, "no such SLATE");
         due(x.nail(-1, true), false, "SLATE -1");
@@ -200,7 +128,7 @@ public final class PromiseTest {
     }
 
     private void promise5Rain() {
-        promise = "promise 5";
+        about("promise 5");
         due(x.rain(0, 9), true, "rain");
         due(x.rain(3, 1), true, "rain");
         due(x.count(10), 9, "RAIN of ACT 0");
@@ -219,7 +147,7 @@ public final class PromiseTest {
     }
 
     private void promise6Guest() {
-        promise = "promise 6";
+        about("promise 6");
         due(x.guest(-1, 1), false, "GUEST -1");
         due(x.guest(10, 1), false, "GUEST 10");
         due(x.guest(0, 0), false, "RANK 0");
@@ -236,7 +164,7 @@ public final class PromiseTest {
     }
 
     private void promise7Sits() {
-        promise = "promise 7";
+        about("promise 7");
         due(x.sits(0, 0, 0, 0), false, "no such GUEST");
         x.guest(0, 1);
         x.guest(1, 1);
@@ -262,7 +190,7 @@ public final class PromiseTest {
     }
 
     private void promise8Feed() {
-        promise = "promise 8";
+        about("promise 8");
         for (int n = 20; n <= 220; n += 20) {
             due(x.feed(0, 0, 0, 0, 0), n, "feed");
         }
@@ -278,7 +206,7 @@ public final class PromiseTest {
     }
 
     private void promise9Score() {
-        promise = "promise 9";
+        about("promise 9");
         due(x.score(1), -1, "nothing on the tape");
         feed('s', '1', 'x', '1');
         due(x.score(0), -1, "n 0");
@@ -298,7 +226,7 @@ public final class PromiseTest {
         due(score(many("s11x1", 32, ",")), 32, "32 NOTES");
         due(score(many("s11x1", 12, "|")), 12, "12 BARS");
         due(score(many("s11x1|s1x1|s1x1", 4, "/")), 12, "12 BARS in 4 ACTS");
-        feed(many("s11x1", 33, ",").chars().toArray());
+        feed(many("s11x1", 33, ","));
         feed(0);
         due(x.count(4), 220, "tape");
         due(x.score(200), -4192, "200 bytes");
@@ -306,7 +234,7 @@ public final class PromiseTest {
     }
 
     private void promise9ScoreFaults() {
-        promise = "promise 9 (faults)";
+        about("promise 9 (faults)");
         due(score("x"), -1000, "no VOICE");
         due(score("S1x1"), -1000, "no VOICE");
         due(score("s"), -1001, "the end");
@@ -334,9 +262,9 @@ public final class PromiseTest {
     }
 
     private void promise10Law() {
-        promise = "promise 10";
+        about("promise 10");
         due(x.law(1), -1, "nothing on the tape");
-        feed("s(1=1)".chars().toArray());
+        feed("s(1=1)");
         due(x.law(0), -1, "n 0");
         due(x.law(201), -1, "n 201");
         due(x.law(21), -1, "not so many");
@@ -354,7 +282,7 @@ public final class PromiseTest {
     }
 
     private void promise10LawFaults() {
-        promise = "promise 10 (faults)";
+        about("promise 10 (faults)");
         due(law("x"), -1000, "no CLAUSE");
         due(law("d"), -1001, "the end");
         due(law("d(1=1)"), -1001, "no E");
@@ -404,7 +332,7 @@ public final class PromiseTest {
     }
 
     private void promise10LawReckons() {
-        promise = "promise 10 (meaning)";
+        about("promise 10 (meaning)");
         score("a20x3");
         x.slate(0, 2, 5, 0, 47);
         reckons("d1+2*3(1=1)", 7);
@@ -446,7 +374,7 @@ public final class PromiseTest {
     }
 
     private void promise11Note() {
-        promise = "promise 11";
+        about("promise 11");
         due(x.note(0, 0), -1, "no SCORE");
         score("s1x2|a13x4,t25x6/b47x9");
         int[][] all = {{0, 1, 2, 0, 0}, {1, 13, 4, 1, 0}, {2, 25, 6, 1, 0}, {3, 47, 9, 2, 1}};
@@ -462,7 +390,7 @@ public final class PromiseTest {
     }
 
     private void promise12Drops() {
-        promise = "promise 12";
+        about("promise 12");
         score("s10x1,s20x1");
         law("d7(1=1);s(i=0)");
         due(x.drops(0, 0), -1, "no such SLATE");
@@ -489,7 +417,7 @@ public final class PromiseTest {
     }
 
     private void promise12Letters() {
-        promise = "promise 12 (letters)";
+        about("promise 12 (letters)");
         score("a10x2|s9x1,s9x1/s9x1|b20x7");
         x.slate(3, 1, 2, 10, 10);
         x.slate(5, 6, 11, 20, 20);
@@ -512,7 +440,7 @@ public final class PromiseTest {
     }
 
     private void promise13Wet() {
-        promise = "promise 13";
+        about("promise 13");
         score("s5x4,s5x3/s5x2");
         law("dl(1=1)");
         x.slate(0, 3, 4, 0, 9);
@@ -535,7 +463,7 @@ public final class PromiseTest {
     }
 
     private void promise13UmbrellasAndSnow() {
-        promise = "promise 13 (umbrellas, snow)";
+        about("promise 13 (umbrellas, snow)");
         score("s5x8,a5x5/s5x1");
         law("dl(1=1);s(v=1);s(a=3)");
         x.slate(0, 1, 0, 0, 9);
@@ -568,7 +496,7 @@ public final class PromiseTest {
     }
 
     private void promise14GuestWet() {
-        promise = "promise 14";
+        about("promise 14");
         score("s5x4/s5x3/s5x2");
         law("dl(1=1)");
         x.slate(0, 0, 0, 0, 9);
@@ -590,7 +518,7 @@ public final class PromiseTest {
     }
 
     private void promise15House() {
-        promise = "promise 15";
+        about("promise 15");
         due(x.house(0, 0), -1, "no NOTES");
         due(x.house(2, 0), 0, "a VOICE without a SCORE");
         score("s5x4,b6x3/b5x2");
@@ -631,7 +559,7 @@ public final class PromiseTest {
     }
 
     private void promise16Seated() {
-        promise = "promise 16";
+        about("promise 16");
         wetRow();
         x.guest(2, 5);
         x.guest(4, 9);
@@ -662,7 +590,7 @@ public final class PromiseTest {
     }
 
     private void promise16SeatedRefuses() {
-        promise = "promise 16 (refusals)";
+        about("promise 16 (refusals)");
         wetRow();
         x.guest(0, 1);
         x.guest(1, 2);
@@ -698,7 +626,7 @@ public final class PromiseTest {
     }
 
     private void promise17Transposed() {
-        promise = "promise 17";
+        about("promise 17");
         due(x.transposed(0, 0), -100, "no such GUEST");
         x.guest(0, 1);
         due(x.transposed(0, 0), -100, "no NOTES");
@@ -739,7 +667,7 @@ public final class PromiseTest {
     }
 
     private void promise18LeftOut() {
-        promise = "promise 18";
+        about("promise 18");
         due(x.leftOut(0, 0, -1), -1, "no such GUEST");
         x.guest(0, 1);
         due(x.leftOut(0, 0, -1), 0, "out");
@@ -782,7 +710,7 @@ public final class PromiseTest {
     }
 
     private void promise19Nails() {
-        promise = "promise 19";
+        about("promise 19");
         due(x.nails(1, 0), -1, "no such GUEST");
         x.guest(0, 1);
         x.guest(3, 1);
@@ -828,7 +756,7 @@ public final class PromiseTest {
     }
 
     private void promise20Sung() {
-        promise = "promise 20";
+        about("promise 20");
         feed(0, 0);
         due(x.sung(0, 1, 0), -1, "no SCORE");
         due(x.count(4), 20, "the tape stays");
@@ -890,7 +818,7 @@ public final class PromiseTest {
     }
 
     private void promise21Sponge() {
-        promise = "promise 21";
+        about("promise 21");
         due(x.sponge(1, 0), 0, "all alike: the lowest");
         due(x.sponge(1, 1), 0, "nothing less");
         score("s5x5/s5x5");
@@ -923,7 +851,7 @@ public final class PromiseTest {
     }
 
     private void promise22Paid() {
-        promise = "promise 22";
+        about("promise 22");
         due(x.paid(4), 0, "no GUESTS");
         score("s5x5");
         law("d1(1=1);q100*a+10*r+y+x(1=1)");
@@ -954,7 +882,7 @@ public final class PromiseTest {
     }
 
     private void promise23Perform() {
-        promise = "promise 23";
+        about("promise 23");
         law("d4+o(1=1);mw+o(x=3);m20(x=2);mv+p+l+i+b+k+a+r(x=1);my+2(y=7);q10+o(1=1)");
         due(x.perform(), -1, "no SCORE");
         due(x.soFar(0), 0, "EVENINGS");
@@ -989,7 +917,7 @@ public final class PromiseTest {
     }
 
     private void promise24SoFar() {
-        promise = "promise 24";
+        about("promise 24");
         due(x.soFar(-1), -1, "what -1");
         due(x.soFar(2), -1, "what 2");
         due(x.soFar(9), -1, "what 9");
@@ -1024,7 +952,7 @@ public final class PromiseTest {
     }
 
     private void promise25Seed() {
-        promise = "promise 25";
+        about("promise 25");
         due(x.seed(-1), false, "-1");
         due(x.seed(65536), false, "65536");
         due(x.count(5), 1, "X");
@@ -1037,7 +965,7 @@ public final class PromiseTest {
     }
 
     private void promise26Draw() {
-        promise = "promise 26";
+        about("promise 26");
         x.seed(65535);
         int seed = 65535;
         for (int n = 0; n < 50; n++) {
@@ -1064,7 +992,7 @@ public final class PromiseTest {
     }
 
     private void promise27KeepAnd28Undo() {
-        promise = "promises 27, 28";
+        about("promises 27, 28");
         due(x.undo(), false, "none was KEPT");
         score("s5x5");
         law("d4(1=1);m1(1=1);q2(1=1)");
@@ -1120,7 +1048,7 @@ public final class PromiseTest {
     }
 
     private void promise29Check() {
-        promise = "promise 29";
+        about("promise 29");
         due(x.check(0, 0, 0), -1, "right, of none");
         due(x.check(0, 0, 1), -2, "it has not so many");
         score("s5x1/s5x2");
@@ -1149,7 +1077,7 @@ public final class PromiseTest {
     }
 
     private void promise30Count() {
-        promise = "promise 30";
+        about("promise 30");
         int[] others = {-1, 9, 14, 99, 196, 199, 296, 299, 340, 1000, Integer.MAX_VALUE, Integer.MIN_VALUE};
         for (int g = 0; g < 10; g++) {
             x.guest(g, 1);
