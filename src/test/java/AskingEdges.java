@@ -336,6 +336,11 @@ final class AskingEdges extends Stage {
         due(sung(0, 0, twenty), 1, "20 SEATS");
         twenty[39] = 1;
         due(sung(0, 0, twenty), 0, "20 SEATS, the last not so");
+        int[] dry = new int[40];
+        for (int t = 0; t < 20; t++) {
+            dry[2 * t] = 95 - t;
+        }
+        due(sung(0, 0, dry), 4, "20 SEATS, all dry");
         law("d99(1=1)");
         score("s1x1,s1x1|s1x1");
         x.seat(0, 0, false, 42);
@@ -458,6 +463,8 @@ final class AskingEdges extends Stage {
         due(x.soFar(10), 8, "GUEST 0");
         due(x.soFar(19), 0, "GUEST 9");
         due(x.soFar(11), NONE, "an untold GUEST");
+        x.guest(1, 1);
+        due(x.soFar(11), 0, "one that is told behind it");
         x.guest(0, 5);
         due(x.soFar(10), 8, "whoever it was");
         x.perform();
@@ -517,6 +524,13 @@ final class AskingEdges extends Stage {
         for (int act = 0; act < 4; act++) {
             due(check(act, 7, 0), NONE, "row 7 of ACT " + act);
         }
+        law("d99(1=1)");
+        score(many("s10x1", 31, ","));
+        for (int k = 0; k < 16; k++) {
+            x.slate(k, 0, 0, 0, 47);
+        }
+        due(check(0, 0, 31 * 16 * 99), NONE, "two bytes of four are not 0");
+        due(check(0, 0, 31 * 16 * 99 + (1 << 16)), 0, "three bytes of four are not 0");
     }
 
     @Says(of = "Promise 29", text = "NONE: right; else the place of the first number that is not so;")

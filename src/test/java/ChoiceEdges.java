@@ -24,6 +24,8 @@ final class ChoiceEdges extends Stage {
         due(x.seated(0, 0x3ff, 10, 10), NONE, "ten");
         due(x.seated(0, 0, 0, 10), NONE, "none");
         due(x.count(4), 20, "the tape stays");
+        emptyTape();
+        due(seated(0, 3, 10, 1, 3), 2 * 10 + 30, "two behind eight");
         x = new RainOpera();
         x.guest(0, 1);
         due(seated(0, 3, 10, 0, 1), NONE, "one that is not told");
@@ -165,6 +167,54 @@ final class ChoiceEdges extends Stage {
         shifts(0, 0, "another SEAT is WET");
     }
 
+    @Says(of = "Terms", text = "that by which a GUEST is least WET;")
+    void whatIsTransposedIsAWholeEvening() {
+        openForOne("s24x5", "d9(p=24);d5(1=1)");
+        x.slate(0, 0, 0, 0, 47);
+        x.seat(0, 0, false, 5);
+        shifts(1, 0, "the BUCKET holds 5");
+        openForOne("s24x5", "d9(p=24);d5(1=1)");
+        x.slate(0, 0, 1, 0, 47);
+        x.seat(0, 1, true, 0);
+        shifts(1, 1, "past an UMBRELLA");
+        x.slate(0, 0, 2, 0, 47);
+        x.seat(0, 2, true, 0);
+        shifts(0, 0, "two SEATS away from an UMBRELLA");
+        x.slate(0, 1, 0, 0, 47);
+        x.seat(1, 0, true, 0);
+        x.sits(0, 0, 0, 11);
+        shifts(0, 0, "in the row ahead of an UMBRELLA");
+        openForOne("s24x5", "d5(1=1);s(p=24)");
+        x.slate(0, 0, 0, 0, 47);
+        x.sits(0, 0, 0, 9);
+        shifts(1, 0, "SNOW falls in the next ACT, on the SEAT of that ACT");
+        x.sits(0, 1, NONE, 0);
+        shifts(0, 0, "SNOW falls in the next ACT, when it is out");
+        openForOne("s24x5", "d5(1=1);s(p=24)");
+        x.slate(0, 0, 0, 0, 47);
+        x.seat(0, 0, false, 1);
+        shifts(0, 4, "SNOW, or not");
+        openForOne("s24x1/s24x1/s24x1/s24x5", "d5(a=3);s(p>24)");
+        x.slate(0, 0, 0, 0, 47);
+        shifts(1, 0, "SNOW of ACT 3 falls never");
+        openForOne("s24x1/s24x1/s24x5", "d5(a=2);s(p>22)");
+        x.slate(0, 0, 0, 0, 47);
+        x.sits(0, 2, NONE, 0);
+        shifts(-2, 0, "SNOW of ACT 2 falls in ACT 3");
+        x = new RainOpera();
+        score("s24x5/s24x5/s24x5/s24x5");
+        law("d5(p<26&a=3);d1(1=1)");
+        x.slate(0, 7, 11, 0, 47);
+        x.guest(9, 1);
+        x.sits(9, 3, 7, 11);
+        due(x.transposed(9, 0), 2, "the last GUEST on the last SEAT in the last ACT");
+        due(x.transposed(9, 1), 1, "the last GUEST on the last SEAT in the last ACT");
+        score("s24x5/s24x5/s24x5");
+        law("d5(a=2);s(p<26)");
+        due(x.transposed(9, 0), 2, "SNOW on the last GUEST");
+        due(x.transposed(9, 1), 0, "SNOW on the last GUEST");
+    }
+
     // ---- LEFT OUT
 
     private void leavesOut(int act, int... notes) {
@@ -190,6 +240,28 @@ final class ChoiceEdges extends Stage {
         leavesOut(0);
         x.seat(0, 0, false, 4);
         leavesOut(1, 6);
+        x.seat(0, 0, true, 0);
+        x.slate(1, 0, 1, 2, 2);
+        x.sits(0, 0, 0, 1);
+        due(x.guestWet(0, 0), 3 + 1 + 1 + 7, "past an UMBRELLA, and without one");
+        leavesOut(0, 1, 2, 3, 4);
+        x.seat(0, 1, false, 4);
+        leavesOut(0, 1, 3);
+        x = new RainOpera();
+        score("s1x1/s1x1/s1x1/s1x5,s1x4");
+        law("dl(1=1)");
+        x.slate(0, 7, 11, 0, 47);
+        x.guest(9, 1);
+        x.sits(9, 3, 7, 11);
+        due(x.leftOut(9, 3, NONE), 2, "the last GUEST on the last SEAT in the last ACT");
+        due(x.leftOut(9, 3, 1), 4, "the last GUEST on the last SEAT in the last ACT");
+        openForOne("s1x2,s1x3,s1x9", "dl(1=1)");
+        x.slate(0, 0, 0, 0, 47);
+        due(x.leftOut(0, 0, NONE), 3, "a first SCORE");
+        score("s1x2,s1x3,s1x9");
+        due(x.leftOut(0, 0, NONE), 3, "a second SCORE");
+        score("s1x2,s1x3");
+        leavesOut(0, 0, 1);
         openForOne(many("s1x1", 32, ","), "d1(1=1)");
         x.slate(0, 0, 0, 0, 47);
         due(x.leftOut(0, 0, NONE), 32, "all");
@@ -231,6 +303,10 @@ final class ChoiceEdges extends Stage {
         leavesOut(0, 0);
         x.seat(0, 0, false, 3);
         leavesOut(0, 1, 2, 3);
+        openForOne("s1x9,s1x1,s1x5,s1x5", "dl(1=1)");
+        x.slate(0, 0, 0, 0, 47);
+        x.seat(0, 0, false, 1);
+        leavesOut(0, 0, 2, 3);
     }
 
     // ---- NAILS
@@ -268,11 +344,44 @@ final class ChoiceEdges extends Stage {
         openForOne("s1x1", "d9(1=1);s(1=1)");
         x.slate(0, 0, 0, 0, 47);
         nails(1, 1, "WET by SNOW");
+        x.seat(0, 0, false, 8);
+        nails(1, 1, "WET by one DROP");
+        x.seat(0, 0, false, 9);
+        nails(1, 0, "not WET");
+        openForOne("s1x1", "d4(1=1)");
+        x.slate(3, 0, 1, 0, 47);
+        x.slate(4, 0, 2, 0, 47);
+        x.seat(0, 1, true, 0);
+        x.seat(0, 2, true, 0);
+        nails(1, 8, "past an UMBRELLA; the other is too far away");
+    }
+
+    @Says(of = "Terms", text = "so that told GUESTS are not WET;")
+    void tenGuestsMayBeWetInFourActs() {
+        law("d1(1=1)");
+        score("s1x1/s1x1/s1x1/s1x1");
+        for (int g = 0; g < 10; g++) {
+            x.slate(g, 7, g, 0, 47);
+            x.guest(g, 1);
+            for (int act = 0; act < 4; act++) {
+                x.sits(g, act, 7, act < 3 ? g : g + 1);
+            }
+        }
+        x.slate(15, 7, 10, 0, 47);
+        nails(0x3ff, 0x83ff, "all");
+        nails(0x200, 0x8200, "the last GUEST, on two SEATS");
+        nails(0x210, 0x8230, "two GUESTS, on four SEATS");
+        x.sits(9, 3, NONE, 0);
+        nails(0x200, 0x200, "the last GUEST, on one SEAT");
+        for (int act = 0; act < 3; act++) {
+            x.sits(9, act, NONE, 0);
+        }
+        nails(0x200, 0, "the last GUEST, out");
     }
 
     @Says(of = "Terms", text = "of like ones the least bits.")
     void ofLikeNailsTheLeastBits() {
-        openForOne("s1x1/s1x1/s1x1/s1x1", "d5(a=0&k<2);d5(a=1&k>1);d5(a=2&k%2=1);d5(a=3&k%2=0)");
+        openForOne("s1x1/s1x1/s1x1/s1x1", "d5(a=0&k%2=1);d5(a=1&k>1);d5(a=2&k<2);d5(a=3&k%2=0)");
         for (int k = 0; k < 4; k++) {
             x.slate(k, 0, 0, 0, 47);
         }
@@ -323,9 +432,17 @@ final class ChoiceEdges extends Stage {
         sings(0, 1, 15, 15, 0, 10);
         sings(0, 0, -2, -2, 0, 11);
         sings(0, 0, -2, -2, 0, 10, 1, 0);
+        sings(0, 8, 4, 4, 1, 9, 2, 0);
+        sings(0, 1, 5, 5, 1, 9, 0, 4, 2, 0, 0, 4);
         x.seat(0, 0, false, 3);
         sings(0, 5, 0, 0, 0, 0);
         sings(0, 2, 5, 0, 0, 1);
+        openForOne("s1x9|s1x3|s1x8", "dl(1=1)");
+        x.slate(0, 0, 1, 0, 47);
+        x.seat(0, 1, true, 0);
+        sings(0, 2, 1, 0, 0, 3, 2, 3, 1, 0);
+        sings(0, 1, 3, 3, 0, 4, 2, 4);
+        sings(0, 1, 4, 4, 2, 2);
     }
 
     @Says(of = "Terms", text = "the first (least bits, the ACT's first BAR lowest), BARS in all.")

@@ -3,9 +3,11 @@ import java.lang.reflect.InvocationTargetException;
 import java.lang.reflect.Method;
 import java.nio.file.Files;
 import java.nio.file.Path;
+import java.util.ArrayList;
 import java.util.Arrays;
 import java.util.Comparator;
 import java.util.LinkedHashMap;
+import java.util.List;
 import java.util.Map;
 
 /**
@@ -22,24 +24,40 @@ public final class EdgeTest {
     }
 
     public static void main(String[] args) throws IOException, ReflectiveOperationException {
-        Map<String, Heading> document = read(Files.readString(DOCUMENT));
+        Map<String, Heading> document = new LinkedHashMap<>();
+        if (Files.isReadable(DOCUMENT)) {
+            document.putAll(read(Files.readString(DOCUMENT)));
+        } else {
+            System.out.println(DOCUMENT + " can't be read: what the tests say is not held against it");
+        }
         int tests = 0;
-        for (Class<?> part : PARTS) {
-            Method[] methods = part.getDeclaredMethods();
-            Arrays.sort(methods, Comparator.comparing(Method::getName));
-            for (Method m : methods) {
-                Says says = m.getAnnotation(Says.class);
-                if (says != null) {
-                    tests++;
-                    Stage.about(part.getName() + "." + m.getName() + ", " + says.of() + " " + Arrays.toString(says.text()));
-                    run(part, m);
-                    mark(document, says);
-                }
+        for (Method m : tests()) {
+            Says says = m.getAnnotation(Says.class);
+            Stage.about(m.getDeclaringClass().getName() + "." + m.getName() + ", " + says.of() + " "
+                    + Arrays.toString(says.text()));
+            run(m.getDeclaringClass(), m);
+            if (!document.isEmpty()) {
+                mark(document, says);
             }
+            tests++;
         }
         document.forEach(EdgeTest::demandAllSaid);
         System.out.println(tests + " sentences tested");
         Stage.endWithTally();
+    }
+
+    private static List<Method> tests() {
+        List<Method> all = new ArrayList<>();
+        for (Class<?> part : PARTS) {
+            Method[] methods = part.getDeclaredMethods();
+            Arrays.sort(methods, Comparator.comparing(Method::getName));
+            for (Method m : methods) {
+                if (m.isAnnotationPresent(Says.class)) {
+                    all.add(m);
+                }
+            }
+        }
+        return all;
     }
 
     private static void run(Class<?> part, Method m) throws ReflectiveOperationException {

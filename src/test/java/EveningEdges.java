@@ -1,3 +1,7 @@
+import java.util.ArrayList;
+import java.util.List;
+import java.util.function.IntSupplier;
+
 /** Terms: AN EVENING, and what WET is. */
 final class EveningEdges extends Stage {
     @Says(of = "Terms", text = "AN EVENING: ACTS 0 to 3, whether THE SCORE has them or not, one behind the other;")
@@ -118,18 +122,18 @@ final class EveningEdges extends Stage {
 
     @Says(of = "Terms", text = "on each neighbour in its row that there is,")
     void neighboursAreInTheRow() {
-        law("d9(1=1)");
-        score("s1x1");
-        int[][] rows = {{0, 0, 1}, {0, 11, 10}, {7, 0, 1}, {7, 11, 10}, {3, 0, 1}, {3, 11, 10}};
-        for (int[] row : rows) {
-            x = new RainOpera();
-            law("d9(1=1)");
-            score("s1x1");
-            x.slate(0, row[0], row[1], 0, 47);
-            x.seat(row[0], row[1], true, 0);
-            String where = "past row " + row[0] + ", place " + row[1];
-            due(x.wet(row[0], row[2], 0), 3, where + ": its neighbour");
-            due(x.house(3, 0), 3, where + ": no other SEAT");
+        for (int row : new int[] {0, 3, 7}) {
+            for (int place : new int[] {0, 1, 10, 11}) {
+                x = new RainOpera();
+                law("d9(1=1)");
+                score("s1x1");
+                x.slate(0, row, place, 0, 47);
+                x.seat(row, place, true, 0);
+                String where = "past row " + row + ", place " + place;
+                due(x.wet(row, place - 1, 0), place == 0 ? NONE : 3, where + ": to the left");
+                due(x.wet(row, place + 1, 0), place == 11 ? NONE : 3, where + ": to the right");
+                due(x.house(3, 0), place == 0 || place == 11 ? 3 : 6, where + ": no other SEAT");
+            }
         }
     }
 
@@ -156,9 +160,13 @@ final class EveningEdges extends Stage {
         due(x.house(3, 0), 6, "two thirds, rounded down");
         due(x.house(0, 0), 6, "by the NOTE");
         due(x.house(1, 0), 6, "by the SLATE");
-        x.slate(0, 0, 0, 0, 47);
-        x.seat(0, 0, true, 0);
-        due(x.house(3, 0), 3, "a third, where there is one neighbour");
+        for (int place : new int[] {0, 11}) {
+            x.slate(0, 0, place, 0, 47);
+            x.seat(0, place, true, 0);
+            due(x.house(3, 0), 3, "a third, where there is one neighbour");
+            due(x.house(0, 0), 3, "by the NOTE");
+            due(x.house(1, 0), 3, "by the SLATE");
+        }
     }
 
     @Says(of = "Terms", text = "Elsewhere all falls there.")
@@ -214,6 +222,7 @@ final class EveningEdges extends Stage {
         x.sits(0, 2, 0, 1);
         x.sits(0, 3, 0, 0);
         due(x.wet(0, 0, 4), 10, "a SEAT in all");
+        due(x.wet(7, 11, 4), 10, "another SEAT in all");
         due(x.guestWet(0, 4), 1 + 2 + 0 + 4, "a GUEST on its SEATS");
         due(x.perform(), 20, "THE HOUSE, SEATS without a GUEST too");
     }
@@ -245,6 +254,48 @@ final class EveningEdges extends Stage {
         due(x.wet(0, 0, 0), 8, "behind undo");
         due(x.drops(1, 0), 4, "drops");
         due(x.house(3, 0), 8, "house");
+    }
+
+    /** Every asking call, with its answer by a SLATE that is open, and by one that is NAILED. */
+    @Says(of = "Terms", text = "of THE EVENING as it would be now")
+    void everyCallAsksAnew() {
+        List<IntSupplier> calls = new ArrayList<>();
+        List<int[]> want = new ArrayList<>();
+        expect(calls, want, () -> x.drops(0, 0), 5, 0);
+        expect(calls, want, () -> x.wet(0, 0, 0), 5, 0);
+        expect(calls, want, () -> x.guestWet(0, 4), 5, 0);
+        expect(calls, want, () -> x.house(0, 0), 5, 0);
+        expect(calls, want, () -> x.house(1, 0), 5, 0);
+        expect(calls, want, () -> x.house(2, 0), 5, 0);
+        expect(calls, want, () -> x.house(3, 0), 5, 0);
+        expect(calls, want, () -> seated(0, 1, 10, 0), 10, 0);
+        expect(calls, want, () -> x.transposed(0, 1), 5, 0);
+        expect(calls, want, () -> x.leftOut(0, 0, NONE), 1, 0);
+        expect(calls, want, () -> x.nails(1, 0), 1, 0);
+        expect(calls, want, () -> sung(0, 0, 0, 5), 1, 0);
+        expect(calls, want, () -> x.sponge(9, 1), 10, 0);
+        expect(calls, want, () -> x.paid(0), 0, 7);
+        expect(calls, want, () -> check(0, 0, 5), NONE, 0);
+        expect(calls, want, () -> x.perform(), 5, 0);
+        for (int c = 0; c < calls.size(); c++) {
+            x = new RainOpera();
+            law("d5(1=1);q7(1=1)");
+            score("s10x1");
+            x.slate(0, 0, 0, 0, 47);
+            x.guest(0, 2);
+            x.sits(0, 0, 0, 0);
+            for (int n = 0; n < 3; n++) {
+                due(calls.get(c).getAsInt(), want.get(c)[0], "call " + c + ", open");
+                x.nail(0, true);
+                due(calls.get(c).getAsInt(), want.get(c)[1], "call " + c + ", NAILED");
+                x.nail(0, false);
+            }
+        }
+    }
+
+    private static void expect(List<IntSupplier> calls, List<int[]> want, IntSupplier call, int open, int nailed) {
+        calls.add(call);
+        want.add(new int[] {open, nailed});
     }
 
     @Says(of = "Terms", text = "(nothing is performed by asking).")

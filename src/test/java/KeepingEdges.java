@@ -23,6 +23,41 @@ final class KeepingEdges extends Stage {
         due(x.soFar(71), 479 * 16 * 99, "NOTE 31, by call 512");
     }
 
+    @Says(of = "Terms", text = {"(4 at most)", "(12 at most in all ACTS)", "(32 at most in all)", "(14 at most)", "GUESTS 0 to 9",
+        "SLATES 0 to 15"})
+    void everythingAtItsMost() {
+        law(many("d0-1(1=2)", 13, ";") + ";d99(1=1)");
+        score(many(many("b47x9,b47x9", 3, "|"), 4, "/") + many(",b47x9", 8, ""));
+        for (int k = 0; k < 16; k++) {
+            x.slate(k, 7, 11, 0, 47);
+        }
+        for (int g = 0; g < 10; g++) {
+            x.guest(g, 99);
+        }
+        for (int act = 0; act < 4; act++) {
+            x.sits(9, act, 7, 11);
+        }
+        int packet = 16 * 99;
+        due(x.count(0) * 10000 + x.count(1) * 100 + x.count(2), 321204, "NOTES, BARS, ACTS");
+        due(x.wet(7, 11, 3), 14 * packet, "the last ACT");
+        due(x.guestWet(9, 4), 32 * packet, "the last GUEST");
+        due(x.house(0, 31), packet, "the last NOTE");
+        due(x.house(1, 15), 32 * 99, "the last SLATE");
+        due(x.house(2, 3), 32 * packet, "the last VOICE");
+        due(x.drops(31, 15), 99, "DROPS");
+        due(x.leftOut(9, 3, NONE), 14, "LEFT OUT");
+        due(x.leftOut(9, 3, 13), 31, "the last NOTE LEFT OUT");
+        due(x.nails(0x200, 1), 0xffff, "NAILS");
+        due(x.transposed(9, 1), 32 * packet, "TRANSPOSED");
+        due(x.sponge(99, 0), 95, "the SEAT of A SPONGE");
+        due(x.sponge(99, 1), 4 * 99 * 99, "A SPONGE");
+        due(sung(3, 0, 95, 0), 1, "SUNG");
+        due(check(3, 7, 0, 0, 0, 0, 0, 0, 0, 0, 0, 0, 0, 14 * packet), NONE, "CHECK");
+        due(seated(3, 0x3fc, 10, 95, 94, 93, 92, 91, 90, 89, 88), 99 * 14 * packet, "SEATED");
+        due(x.perform(), 32 * packet, "PERFORMED");
+        due(x.soFar(71), packet, "LED to the last NOTE");
+    }
+
     @Says(of = "What it is", text = "at most 512 calls after it has been made;")
     void anyCallMayBeThe512th() {
         List<ToIntFunction<RainOpera>> calls = new ArrayList<>();
@@ -162,12 +197,13 @@ final class KeepingEdges extends Stage {
         x.perform();
         x.seat(0, 0, true, 9);
         x.seat(0, 5, false, 9);
-        x.slate(0, 1, 1, 1, 2);
+        x.slate(0, 1, 1, 25, 26);
         x.slate(9, 1, 1, 0, 47);
         x.nail(1, true);
         x.guest(0, 98);
         x.guest(7, 1);
         x.sits(1, 1, 6, 6);
+        x.sits(9, 3, 0, 0);
         x.rain(2, 8);
         x.draw();
         x.seed(4711);
@@ -260,6 +296,8 @@ final class KeepingEdges extends Stage {
         x.sits(0, 0, 0, 0);
         x.sits(1, 0, 0, 2);
         x.sits(1, 1, 0, 0);
+        x.guest(9, 3);
+        x.sits(9, 3, 7, 11);
         x.seed(77);
         feed("b7x7");
     }

@@ -86,7 +86,14 @@ final class LawEdges extends Stage {
             readByte("s(1=1)", sign, "q1(1=1)", sign == 59 ? 2 : -1006);
         }
         open();
-        drops(many("s(1=1)", 13, ";") + ";d7(1=1)", 7);
+        drops(many("s(1=2)", 13, ";") + ";d7(1=1)", 7);
+        due(x.wet(2, 5, 0), 7, "all 14 are asked");
+        law(many("s(1=2)", 12, ";") + ";s(1=1);d7(1=1)");
+        due(x.wet(2, 5, 1), 7, "all 14 are asked");
+        law(many("s(1=2)", 12, ";") + ";d7(1=1);s(1=1)");
+        due(x.wet(2, 5, 1), 7, "all 14 are asked");
+        law("d7(1=1)");
+        due(x.wet(2, 5, 1), 0, "no CLAUSES of the one before");
     }
 
     @Says(of = "Terms", text = "d, E and (C): how many DROPS come by a NOTE through a SLATE (0 to 99);")
@@ -245,6 +252,8 @@ final class LawEdges extends Stage {
         amount("50-2*3-4", 40);
         amount("50-10%4", 48);
         amount("9-8/2", 5);
+        amount("7/1", 7);
+        amount("7%1+3", 3);
     }
 
     @Says(of = "Terms", text = "a FACTOR: [E], a number of one to five digits, or a letter:")
@@ -357,6 +366,12 @@ final class LawEdges extends Stage {
         x.seat(2, 5, false, 0);
         x.perform();
         due(x.count(129), 3 + 6, "w in all ACTS together, SNOW too");
+        x.slate(0, 7, 11, 0, 47);
+        law("d3+w(1=1);m1(w=6);qw+1(1=1)");
+        due(x.perform(), 6, "in d it is 0");
+        due(x.perform(), 6, "in d it is 0 behind m, too");
+        due(x.count(195), 2, "in m it is told each time");
+        due(x.paid(1), 1, "in q it is 0 behind m, too");
     }
 
     @Says(of = "Terms", text = "All is reckoned with 32 bits, as the machine does;")

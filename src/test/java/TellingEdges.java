@@ -67,6 +67,10 @@ final class TellingEdges extends Stage {
         due(x.drops(1, 0), 5, "by its PITCH");
         due(x.slate(15, 7, 11, 0, 47), true, "the last one");
         due(x.count(6), 0x8001, "two SLATES");
+        x.nail(0, true);
+        x.nail(15, true);
+        due(x.slate(15, 7, 11, 0, 47), true, "the last one again");
+        due(x.count(7), 1, "it is not NAILED, SLATE 0 is");
     }
 
     @Says(of = "Promise 3", text = "false: no such ones.")
