@@ -177,6 +177,8 @@ final class ChoiceEdges extends Stage {
         x.slate(0, 0, 1, 0, 47);
         x.seat(0, 1, true, 0);
         shifts(1, 1, "past an UMBRELLA");
+        x.sits(0, 1, NONE, 0);
+        shifts(1, 1, "past an UMBRELLA, in this ACT alone");
         x.slate(0, 0, 2, 0, 47);
         x.seat(0, 2, true, 0);
         shifts(0, 0, "two SEATS away from an UMBRELLA");
@@ -184,6 +186,11 @@ final class ChoiceEdges extends Stage {
         x.seat(1, 0, true, 0);
         x.sits(0, 0, 0, 11);
         shifts(0, 0, "in the row ahead of an UMBRELLA");
+        openForOne("s24x5", "d9(p=24);d5(1=1);s(1=1)");
+        x.slate(0, 0, 1, 0, 47);
+        x.seat(0, 1, true, 0);
+        x.sits(0, 0, NONE, 0);
+        shifts(1, 1, "SNOW past an UMBRELLA, in the next ACT alone");
         openForOne("s24x5", "d5(1=1);s(p=24)");
         x.slate(0, 0, 0, 0, 47);
         x.sits(0, 0, 0, 9);
@@ -437,6 +444,11 @@ final class ChoiceEdges extends Stage {
         x.seat(0, 0, false, 3);
         sings(0, 5, 0, 0, 0, 0);
         sings(0, 2, 5, 0, 0, 1);
+        openForOne("s2x1|s1x5", "dl(1=1)");
+        x.slate(0, 0, 0, 1, 1);
+        sings(0, 4, 0, 0, 5, 0, 6, 0);
+        sings(0, 2, 0, 0, 5, 0, 0, 0);
+        sings(0, 2, 2, 2, 5, 0, 0, 5);
         openForOne("s1x9|s1x3|s1x8", "dl(1=1)");
         x.slate(0, 0, 1, 0, 47);
         x.seat(0, 1, true, 0);
