@@ -1,28 +1,20 @@
 import java.util.ArrayList;
 import java.util.List;
+import java.util.Map;
 import java.util.Random;
+import java.util.TreeMap;
 
 /** Runs of drawn calls (the same ones each time) on RainOpera and on PlainOpera: all answers must be alike. */
 public final class RandomRunsTest {
-    private static final String[] CALLS = {"seat", "slate", "nail", "rain", "guest", "sits", "feed", "score", "law",
-        "note", "drops", "wet", "guestWet", "house", "seated", "transposed", "leftOut", "nails", "sung", "sponge", "paid",
-        "perform", "soFar", "seed", "draw", "keep", "undo", "check", "count"};
-
-    /** What is asked of an object beyond so many calls is free. */
-    private static final int PROMISED_CALLS = 512;
-
     private final Random random;
-    private final RainOpera opera = new RainOpera();
-    private final PlainOpera plain = new PlainOpera();
-    private final List<String> told = new ArrayList<>();
-    private int calls;
-    private boolean isWrong;
+    private final BothOperas both = new BothOperas();
+    private final PlainOpera plain = both.plain;
     /** How many of the slates and notes a run has: few ones let all be tried fast. */
     private final int slates;
     private final int notes;
     private final int seats;
 
-    private static final int[] asked = new int[CALLS.length];
+    private static final Map<String, Integer> ASKED = new TreeMap<>();
 
     private RandomRunsTest(long seed) {
         random = new Random(seed);
@@ -38,17 +30,13 @@ public final class RandomRunsTest {
         for (long seed = first; seed < first + runs && wrong < 3; seed++) {
             RandomRunsTest run = new RandomRunsTest(seed);
             run.go();
-            if (run.isWrong) {
+            if (run.both.isWrong()) {
                 wrong++;
                 System.out.println("run " + seed + ":");
-                run.told.forEach(System.out::println);
+                run.both.tell();
             }
         }
-        StringBuilder all = new StringBuilder();
-        for (int c = 0; c < CALLS.length; c++) {
-            all.append(' ').append(CALLS[c]).append(' ').append(asked[c]);
-        }
-        System.out.println(runs + " runs, calls:" + all);
+        System.out.println(runs + " runs, calls: " + ASKED);
         System.out.println(wrong == 0 ? "all answers are alike" : wrong + " runs are not alike");
         if (wrong != 0) {
             System.exit(1);
@@ -60,8 +48,8 @@ public final class RandomRunsTest {
             furnish();
         }
         boolean isAllAsked = random.nextInt(3) != 0;
-        int most = isAllAsked ? 140 : PROMISED_CALLS;
-        while (calls < most && !isWrong) {
+        int most = isAllAsked ? 140 : BothOperas.PROMISED_CALLS;
+        while (both.calls() < most && !both.isWrong()) {
             step();
         }
         if (isAllAsked) {
@@ -87,7 +75,7 @@ public final class RandomRunsTest {
 
     private void askAll(String name, int... bounds) {
         for (int j = 0; j < bounds.length; j += 2) {
-            for (int what = bounds[j]; what <= bounds[j + 1] && !isWrong; what++) {
+            for (int what = bounds[j]; what <= bounds[j + 1] && !both.isWrong(); what++) {
                 call(name, what);
             }
         }
@@ -210,14 +198,13 @@ public final class RandomRunsTest {
 
     // ---- what is fed
 
+    /** Drawn bytes fill up the last twenty. */
     private void feed(byte[] bytes) {
-        for (int at = 0; at < bytes.length; at += 20) {
-            int[] words = new int[5];
-            for (int j = 0; j < 20; j++) {
-                int b = at + j < bytes.length ? bytes[at + j] & 255 : random.nextInt(256);
-                words[j / 4] = words[j / 4] << 8 | b;
-            }
-            call("feed", words);
+        byte[] all = new byte[(bytes.length + 19) / 20 * 20];
+        random.nextBytes(all);
+        System.arraycopy(bytes, 0, all, 0, bytes.length);
+        for (int at = 0; at < all.length; at += 20) {
+            call("feed", BothOperas.words(all, at));
         }
     }
 
@@ -419,107 +406,10 @@ public final class RandomRunsTest {
         return amount(depth) + pick("<>=") + amount(depth);
     }
 
-    // ---- the same call on both
-
     private void call(String name, int... a) {
-        if (calls == PROMISED_CALLS) {
-            return;
-        }
-        calls++;
-        for (int c = 0; c < CALLS.length; c++) {
-            asked[c] += CALLS[c].equals(name) ? 1 : 0;
-        }
-        int due = onPlain(name, a);
-        if (due == PlainOpera.SKIPPED) {
-            return;
-        }
-        StringBuilder line = new StringBuilder(name).append('(');
-        for (int j = 0; j < a.length; j++) {
-            line.append(j > 0 ? ", " : "").append(a[j]);
-        }
-        int got;
-        try {
-            got = onOpera(name, a);
-        } catch (RuntimeException e) {
-            told.add(line + ") threw " + e);
-            isWrong = true;
-            return;
-        }
-        told.add(line + ") answered " + got + (got == due ? "" : ", due is " + due));
-        isWrong |= got != due;
-    }
-
-    private static int bit(boolean is) {
-        return is ? 1 : 0;
-    }
-
-    private int onOpera(String name, int[] a) {
-        RainOpera x = opera;
-        switch (name) {
-            case "seat": return bit(x.seat(a[0], a[1], a[2] == 1, a[3]));
-            case "slate": return bit(x.slate(a[0], a[1], a[2], a[3], a[4]));
-            case "nail": return bit(x.nail(a[0], a[1] == 1));
-            case "rain": return bit(x.rain(a[0], a[1]));
-            case "guest": return bit(x.guest(a[0], a[1]));
-            case "sits": return bit(x.sits(a[0], a[1], a[2], a[3]));
-            case "feed": return x.feed(a[0], a[1], a[2], a[3], a[4]);
-            case "score": return x.score(a[0]);
-            case "law": return x.law(a[0]);
-            case "note": return x.note(a[0], a[1]);
-            case "drops": return x.drops(a[0], a[1]);
-            case "wet": return x.wet(a[0], a[1], a[2]);
-            case "guestWet": return x.guestWet(a[0], a[1]);
-            case "house": return x.house(a[0], a[1]);
-            case "seated": return x.seated(a[0], a[1], a[2], a[3]);
-            case "transposed": return x.transposed(a[0], a[1]);
-            case "leftOut": return x.leftOut(a[0], a[1], a[2]);
-            case "nails": return x.nails(a[0], a[1]);
-            case "sung": return x.sung(a[0], a[1], a[2]);
-            case "sponge": return x.sponge(a[0], a[1]);
-            case "paid": return x.paid(a[0]);
-            case "perform": return x.perform();
-            case "soFar": return x.soFar(a[0]);
-            case "seed": return bit(x.seed(a[0]));
-            case "draw": return x.draw();
-            case "keep": return x.keep();
-            case "undo": return bit(x.undo());
-            case "check": return x.check(a[0], a[1], a[2]);
-            default: return x.count(a[0]);
-        }
-    }
-
-    private int onPlain(String name, int[] a) {
-        PlainOpera x = plain;
-        switch (name) {
-            case "seat": return bit(x.seat(a[0], a[1], a[2] == 1, a[3]));
-            case "slate": return bit(x.slate(a[0], a[1], a[2], a[3], a[4]));
-            case "nail": return bit(x.nail(a[0], a[1] == 1));
-            case "rain": return bit(x.rain(a[0], a[1]));
-            case "guest": return bit(x.guest(a[0], a[1]));
-            case "sits": return bit(x.sits(a[0], a[1], a[2], a[3]));
-            case "feed": return x.feed(a[0], a[1], a[2], a[3], a[4]);
-            case "score": return x.score(a[0]);
-            case "law": return x.law(a[0]);
-            case "note": return x.note(a[0], a[1]);
-            case "drops": return x.drops(a[0], a[1]);
-            case "wet": return x.wet(a[0], a[1], a[2]);
-            case "guestWet": return x.guestWet(a[0], a[1]);
-            case "house": return x.house(a[0], a[1]);
-            case "seated": return x.seated(a[0], a[1], a[2], a[3]);
-            case "transposed": return x.transposed(a[0], a[1]);
-            case "leftOut": return x.leftOut(a[0], a[1], a[2]);
-            case "nails": return x.nails(a[0], a[1]);
-            case "sung": return x.sung(a[0], a[1], a[2]);
-            case "sponge": return x.sponge(a[0], a[1]);
-            case "paid": return x.paid(a[0]);
-            case "perform": return x.perform();
-            case "soFar": return x.soFar(a[0]);
-            case "seed": return bit(x.seed(a[0]));
-            case "draw": return x.draw();
-            case "keep": return x.keep();
-            case "undo": return bit(x.undo());
-            case "check": return x.check(a[0], a[1], a[2]);
-            default: return x.count(a[0]);
+        if (both.calls() < BothOperas.PROMISED_CALLS) {
+            ASKED.merge(name, 1, Integer::sum);
+            both.call(name, a);
         }
     }
 }
